@@ -199,7 +199,8 @@ public final class DockingMonitor {
         history.keep(present);
         int done = 0;
         int at = 0;
-        while (at < text.length) {
+        // an act has two bytes at least, so that this bound is never met
+        while (done < MOST_BYTES && at < text.length) {
             int act = text.byteAt(at);
             int number = text.numberAt(at + 1);
             if (present.errorOf(act, number) != NO_ERROR) {

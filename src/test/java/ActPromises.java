@@ -328,6 +328,7 @@ public final class ActPromises {
         arrival("crashes beyond the other margin", 5, -51, -50, 5);
         DockingMonitor m = placed(5, 0, -49, 0);
         Due.is("11: not there yet", m.pass(1), 0);
+        Due.isFloat("11: a millimetre away", m.bits(0), 5 / 100.0f + -49 / 1000.0f);
         m = placed(5, 20, -50, 10);
         m.pass(1);
         for (int i = 0; i < 4; i++) {

@@ -161,6 +161,15 @@ public final class ForecastPromises {
         safe("none in the zone", m, NONE);
     }
 
+    private static void onlyStandingIsSafe() {
+        DockingMonitor m = new DockingMonitor();
+        m.set(2, 5000);
+        m.place(1000, 250, 0, 0);
+        safe("any speed leads out of the corridor", m, 0);
+        m.place(1000, 251, 0, 0);
+        safe("standing too", m, NONE);
+    }
+
     /** With one second of drift, the slope 0.2f, the margin 0.5f and the limit 0.5f. */
     private static int safeBySearch(float x, float y, float r) {
         int best = NONE;
@@ -184,6 +193,7 @@ public final class ForecastPromises {
         safeSpeeds();
         leaps();
         noSafeSpeed();
+        onlyStandingIsSafe();
         Due.end();
     }
 }

@@ -186,6 +186,37 @@ public final class HistoryPromises {
         Due.is("18: the history is not restored", m.total(9), 1);
     }
 
+    private static void countsComeBack() {
+        DockingMonitor m = new DockingMonitor();
+        m.set(4, 1);
+        m.place(3000, 0, -700, 0);
+        m.approach();
+        m.pass(1);
+        m.save(0);
+        m.pass(3);
+        m.save(1);
+        Due.is("17: a judged retreat", m.total(11), 1);
+        Due.is("17: a change of sensors", m.total(12), 1);
+        m.place(9000, 0, 0, 0);
+        m.restore(0);
+        Due.is("18: strikes", m.total(2), 1);
+        Due.is("18: agreements", m.total(3), 1);
+        Due.is("18: sensor in use", m.total(4), 0);
+        Due.is("18: retreats", m.total(11), 0);
+        Due.is("18: changes", m.total(12), 0);
+        Due.is("18: seconds", m.total(1), 1);
+        m.restore(1);
+        Due.is("18: no strikes", m.total(2), 0);
+        Due.is("18: no agreements", m.total(3), 0);
+        Due.is("18: near in use", m.total(4), 1);
+        Due.is("18: a retreat", m.total(11), 1);
+        Due.is("18: a change", m.total(12), 1);
+        Due.is("18: later seconds", m.total(1), 4);
+        m.undo();
+        Due.is("16: strikes", m.total(2), 1);
+        Due.is("16: agreements", m.total(3), 1);
+    }
+
     private static void aHeldShipComesBack() {
         DockingMonitor m = new DockingMonitor();
         m.set(4, 1);
@@ -220,6 +251,7 @@ public final class HistoryPromises {
         slots();
         slotsAreNoState();
         aHeldShipComesBack();
+        countsComeBack();
         Due.end();
     }
 }

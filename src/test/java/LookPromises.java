@@ -149,6 +149,25 @@ public final class LookPromises {
         }
     }
 
+    /** A full profile, and a point at which the interpolation from below would not give its speed. */
+    private static void limitsOfAFullProfile() {
+        DockingMonitor m = new DockingMonitor();
+        boolean differs = false;
+        int[] speeds = {5000, 1, 4999, 3, 4998, 7};
+        for (int i = 0; i < 6; i++) {
+            m.setPoint(1000 * i + 1, speeds[i]);
+        }
+        for (int i = 0; i < 6; i++) {
+            float t = speeds[i] / 1000.0f;
+            float s = speeds[i > 0 ? i - 1 : 0] / 1000.0f;
+            differs |= i > 0 && i < 5 && s + (t - s) != t;
+            Due.isFloat("21: at point " + i, m.limit(1000 * i + 1), t);
+        }
+        Due.is("21: such a point is among them", differs ? 1 : 0, 1);
+        Due.isFloat("21: above all", m.limit(5002), 7 / 1000.0f);
+        Due.isFloat("21: below all", m.limit(0), 5.0f);
+    }
+
     private static void judgements() {
         DockingMonitor m = new DockingMonitor();
         m.setPoint(0, 100);
@@ -200,8 +219,12 @@ public final class LookPromises {
         Due.is("22: in the corridor", m.judgement(), 0);
         m.place(1000, 260, 0, -1000);
         Due.is("22: the beginning is not of the drift", m.judgement(), 1);
-        m.place(1000, 240, 0, 10);
-        Due.is("22: the edge is not greater", m.judgement(), 2.4f + 10 / 1000.0f > 10.0f * 0.2f + 0.5f ? 4 : 0);
+        m.place(1000, 250, 0, 0);
+        Due.is("22: the edge itself is inside", m.judgement(), 0);
+        m.place(1000, -250, 0, 0);
+        Due.is("22: the other edge too", m.judgement(), 0);
+        m.place(1000, 251, 0, 0);
+        Due.is("22: beyond it is outside", m.judgement(), 5);
         m.place(1000, 240, 0, 110);
         Due.is("22: beyond the edge", m.judgement(), 4);
         m.set(0, 500);
@@ -295,6 +318,7 @@ public final class LookPromises {
         tinyNumbers();
         greatNumbers();
         limits();
+        limitsOfAFullProfile();
         judgements();
         driftJudgements();
         judgementOfAnArrivedShip();

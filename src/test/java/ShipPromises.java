@@ -174,6 +174,12 @@ public final class ShipPromises {
         Due.is("4: a seventh at the end", m.setPoint(99999, 1), FULL);
         Due.is("4: a bad value goes first", m.setPoint(1, 0), BAD_VALUE);
         Due.same("4: an error changes nothing", Due.look(m), before);
+        DockingMonitor full = new DockingMonitor();
+        for (int i = 1; i <= 6; i++) {
+            full.setPoint(i, i);
+        }
+        Due.is("4: a seventh behind all", full.setPoint(7, 7), FULL);
+        Due.is("4: a seventh ahead of all", full.setPoint(0, 7), FULL);
         for (int i = 0; i < 6; i++) {
             Due.is("4: in place of one", m.setPoint(due[i][0], 70 + i), 6);
             Due.is("4: its speed", m.point(i, 1), 70 + i);
@@ -196,10 +202,17 @@ public final class ShipPromises {
             Due.is("5: closed", m.stop(i, 1), 0);
             Due.is("5: not held", m.stop(i, 2), 0);
         }
+        m.place(50000, 0, 0, 0);
+        m.approach();
+        Due.is("5: none is near", m.pass(1), 1);
+        m.undo();
+        m.undo();
+        m.undo();
         Due.is("5: a fifth", m.addStop(5), FULL);
         Due.is("5: a bad value goes first", m.addStop(0), BAD_VALUE);
         Due.is("5: four stay", m.total(7), 4);
-        Due.is("5: recorded", m.total(9), 4);
+        m.addStop(5);
+        Due.is("5: recorded", m.total(9), 2);
         m.open(3);
         m.undo();
         m.undo();
