@@ -2,6 +2,7 @@
 final class Due {
     private static int wrong = 0;
     private static int seen = 0;
+    private static String sentence = "";
 
     private Due() {
     }
@@ -11,7 +12,7 @@ final class Due {
         if (got != want) {
             wrong++;
             if (wrong <= 40) {
-                System.out.println(what + ": answered " + got + ", due is " + want);
+                System.out.println(sentence + what + ": answered " + got + ", due is " + want);
             }
         }
     }
@@ -21,8 +22,13 @@ final class Due {
                 Float.floatToIntBits(want));
     }
 
-    static boolean allRight() {
-        return wrong == 0;
+    /** The document's sentence that the next answers belong to, or nothing. */
+    static void sentence(String quote) {
+        sentence = quote.isEmpty() ? "" : "\"" + quote + "\": ";
+    }
+
+    static int seen() {
+        return seen;
     }
 
     static void end() {
@@ -62,7 +68,7 @@ final class Due {
         seen++;
         if (!got.equals(want)) {
             wrong++;
-            System.out.println(what + ":\n  got " + got + "\n  due " + want);
+            System.out.println(sentence + what + ":\n  got " + got + "\n  due " + want);
         }
     }
 }

@@ -2,6 +2,7 @@
 public final class ModelRuns {
     private static final int RUNS = 1500;
     private static final int CALLS = 100;
+    private static final int LIFE = 512;
     private static long seed = 20261119L;
     private static final int[] modesSeen = new int[6];
     private static int judgedRetreats;
@@ -244,11 +245,11 @@ public final class ModelRuns {
         heldWithout += real.total(0) == 2 && !held ? 1 : 0;
     }
 
-    private void oneRun() {
+    private void oneRun(int calls) {
         real = new DockingMonitor();
         plain = new Plain();
         story = new StringBuilder();
-        for (int i = 0; i < CALLS; i++) {
+        for (int i = 0; i < calls; i++) {
             int kind = below(20);
             if (kind < 5) {
                 shipCall();
@@ -270,7 +271,7 @@ public final class ModelRuns {
 
     public static void main(String[] args) {
         for (int run = 0; run < RUNS; run++) {
-            new ModelRuns().oneRun();
+            new ModelRuns().oneRun(run % 25 == 0 ? LIFE : CALLS);
         }
         for (int mode = 0; mode < 6; mode++) {
             Due.is("runs that end in mode " + mode + " are enough", modesSeen[mode] > 5 ? 1 : 0, 1);
